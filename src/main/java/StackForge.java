@@ -326,8 +326,6 @@ public final class StackForge {
         static final int LONG_IS_ZERO = 64;
         static final int FIRST_REAL = 70;
         static final int NEGATE = 76;
-        static final int FIRST_CONVERSION = 80;
-        static final int LAST_CONVERSION = 85;
 
         static final int NONE_SUCH = -1;
 
@@ -480,13 +478,6 @@ public final class StackForge {
             return Instruction.hasOperand(number) ? 2 : 1;
         }
 
-        void noteBegin(int place) {
-            if (place >= 0 && place < MOST_BYTES) {
-                behindElse[place] = 0;
-                behindEnd[place] = 0;
-            }
-        }
-
         void noteElse(int begin, int behind) {
             if (begin >= 0 && begin < MOST_BYTES) {
                 behindElse[begin] = behind;
@@ -631,7 +622,7 @@ public final class StackForge {
             inner = rows[frames];
             inner.open(place, opener, height, outcome);
             frames++;
-            function.noteBegin(place);
+            function.noteElse(place, 0);
         }
 
         private void turnToElse(int place) {

@@ -270,6 +270,11 @@ public final class FaultTest {
         good("of a dead block", 0, 2, 0, 2, 2, 0, 6, 6);
         bad("has its kind", 4, 0, 1, 0, 2, 2, 0, 6, 6);
         bad("an else is not dead", 7, 0, 0, 0, 20, 0, 4, 0, 0, 5, 1, 13, 6, 6);
+        bad("a later block is not dead", 6, 0, 0, 0, 2, 0, 0, 6, 3, 0, 13, 6, 6);
+        StackForge x = Trial.forge(0, 0, 0, 0, 6);
+        Trial.define(x, 1, 0, 0, 0, 13, 6);
+        Trial.same("a dead one", x.fault(0), -1);
+        Trial.same("and then one that is not", x.fault(1), 0);
         bad("instructions that are not there", 1, 0, 0, 0, 0, 29, 6);
         bad("variables that are not there", 1, 0, 0, 0, 0, 15, 0, 6);
         bad("frames that are not there", 1, 0, 0, 0, 0, 7, 1, 6);

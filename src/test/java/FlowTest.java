@@ -45,6 +45,11 @@ public final class FlowTest {
     }
 
     private static void elses() {
+        // An IF at a place where code that is no more had one with an ELSE.
+        StackForge x = Trial.forge(1, 1, 0, 15, 0, 4, 0, 5, 6, 20, 5, 6);
+        gives(5, 5, x, 0);
+        Trial.define(x, 0, 1, 1, 0, 15, 0, 4, 0, 0, 6, 20, 9, 6);
+        gives(9, 4, x, 0);
         int[] code = {15, 0, 4, 1, 20, 8, 5, 20, 9, 6, 6};
         // ELSE goes behind the END: END is no step of its own then.
         gives(8, 5, Trial.forge(1, 1, 0, code), 3);
@@ -98,6 +103,10 @@ public final class FlowTest {
         gives(3, 6, Trial.forge(0, 1, 0, 2, 0, 2, 0, 2, 0, 7, 2, 6, 20, 1, 13, 6, 6, 20, 3, 6));
         gives(5, 4, Trial.forge(0, 1, 0, 2, 0, 20, 9, 20, 5, 7, 1, 6, 20, 4, 6));
         gives(5, 2, Trial.forge(0, 1, 0, 20, 5, 7, 0, 6));
+        // A frame without a result: nothing is kept of what was put in it.
+        gives(-2, 7, Trial.forge(0, 1, 0, 20, 5, 20, 7, 2, 0, 20, 9, 7, 0, 6, 31, 6));
+        gives(-2, 9, Trial.forge(1, 1, 0, 20, 5, 20, 7, 15, 0, 4, 0, 20, 9, 15, 0, 8, 0, 13, 6, 31, 6),
+                1);
         // Every kind is kept.
         gives(-6, 4, Trial.forge(0, 2, 0, 2, 2, 21, 250, 7, 0, 6, 6));
         Trial.givesReal("a double", 1.5, Trial.forge(0, 3, 0, 2, 3, 22, 3, 22, 12, 7, 0, 6, 6));
@@ -189,6 +198,7 @@ public final class FlowTest {
         gives(0, 2, Trial.forge(1, 2, 123, 15, 2, 6), 5);
         Trial.givesReal("a local", 0.0, Trial.forge(1, 3, 123, 15, 3, 6), 5);
         gives(7, 4, Trial.forge(1, 1, 123, 20, 7, 16, 1, 15, 1, 6), 5);
+        gives(8, 4, Trial.forge(1, 1, 123, 20, 8, 20, 7, 16, 1, 6), 5);
         gives(5, 4, Trial.forge(1, 1, 123, 20, 7, 16, 1, 15, 0, 6), 5);
         gives(14, 5, Trial.forge(1, 1, 0, 20, 7, 17, 0, 15, 0, 30, 6), 5);
         gives(-3, 4, Trial.forge(1, 2, 2, 21, 253, 16, 1, 15, 1, 6), 5);
@@ -205,6 +215,7 @@ public final class FlowTest {
 
     private static void globals() {
         gives(5, 6, Trial.forge(0, 1, 0, 20, 5, 19, 0, 21, 6, 19, 1, 18, 0, 6));
+        gives(7, 4, Trial.forge(0, 1, 0, 20, 7, 20, 5, 19, 0, 6));
         gives(6, 6, Trial.forge(0, 2, 0, 20, 5, 19, 0, 21, 6, 19, 1, 18, 1, 6));
         Trial.givesReal("18 2", 0.75, Trial.forge(0, 3, 0, 22, 6, 19, 2, 18, 2, 6));
     }

@@ -42,6 +42,11 @@ public final class LoadAndStoreTest {
             Trial.gives("27 and 24 of " + n, n & 255, x, 20, n);
             bytesAre("27 of " + n, x, 19, 0, n & 255, 0);
         }
+        // What is beside the byte stays, and is not loaded with it.
+        Trial.ended(x, 19, 77);
+        Trial.ended(x, 21, 99);
+        Trial.gives("27 and 24 between others", 200, x, 20, 200);
+        bytesAre("27 between others", x, 18, 0, 77, 200, 99, 0);
     }
 
     private static void longs() {

@@ -107,6 +107,13 @@ public final class StartTest {
         Trial.traps("12 / 0", 2, y, 0);
         Trial.gives("after a trap", 4, y, 3);
         Trial.same("steps of the latest", y.count(1), 4);
+        // LOCALS are 0 where an earlier run had more arguments.
+        StackForge w = Trial.forge(1, 1, 11, 15, 1, 15, 2, 30, 6);
+        Trial.define(w, 1, 111, 0, 0, 6);
+        w.check();
+        Trial.begin(w, 1, 70, 80, 90);
+        Trial.end(w);
+        Trial.gives("fewer arguments", 0, w, 5);
         // Not the function of the run before, nor its depth.
         StackForge z = Trial.forge(0, 0, 0, 11, 0, 6);
         Trial.define(z, 1, 0, 1, 0, 20, 77, 6);

@@ -103,6 +103,15 @@ public final class TrapsTest {
         x.shape(4, 12, 0, 0);
         Trial.write(x, 4, 6);
         Trial.traps("no result", 4, x, 4);
+        x.shape(5, 22, 1, 0);
+        Trial.write(x, 5, 20, 9, 6);
+        Trial.traps("other parameters: the first of two", 4, x, 5);
+        x.shape(5, 11, 1, 0);
+        Trial.write(x, 5, 20, 9, 6);
+        Trial.traps("other parameters: the last of two", 4, x, 5);
+        x.shape(5, 12, 1, 12);
+        Trial.write(x, 5, 20, 9, 6);
+        Trial.gives("the same parameters", 9, x, 5);
         // With six calls open: the place is looked at before the call is made.
         StackForge y = Trial.forge(1, 0, 0, 15, 0, 4, 0, 15, 0, 20, 1, 31, 20, 0, 12, 0, 5, 20, 1, 12, 1,
                 6, 6);
