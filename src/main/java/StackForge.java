@@ -412,12 +412,15 @@ public final class StackForge {
         }
 
         private void addVariables(int digits) {
-            for (int unit = 100; unit > 0; unit /= 10) {
-                int kind = digits / unit % 10;
-                if (kind != NO_KIND && variableCount < MOST_VARIABLES) {
-                    kinds[variableCount] = kind;
-                    variableCount++;
-                }
+            addVariable(digits / 100);
+            addVariable(digits / 10 % 10);
+            addVariable(digits % 10);
+        }
+
+        private void addVariable(int kind) {
+            if (kind != NO_KIND && variableCount < MOST_VARIABLES) {
+                kinds[variableCount] = kind;
+                variableCount++;
             }
         }
 
@@ -849,8 +852,11 @@ public final class StackForge {
         }
 
         private void put(long number, double real) {
-            set(height, number, real);
-            cutTo(height + 1);
+            if (height >= 0 && height < numbers.length && height < reals.length) {
+                numbers[height] = number;
+                reals[height] = real;
+                height++;
+            }
         }
 
         void putNumber(long number) {
@@ -884,11 +890,15 @@ public final class StackForge {
         }
 
         void drop() {
-            cutTo(height - 1);
+            if (height > 0) {
+                height--;
+            }
         }
 
-        void cutTo(int newHeight) {
-            height = Math.max(0, Math.min(newHeight, numbers.length));
+        void cutTo(int lower) {
+            if (lower >= 0 && lower < height) {
+                height = lower;
+            }
         }
     }
 
@@ -1030,7 +1040,7 @@ public final class StackForge {
 
     /** Runs checked code; what a step does is answered as its trap. */
     private static final class Machine {
-        private static final double MOST = 1.0E300;
+        private static final long LOW_HALF = 0xFFFFFFFFL;
 
         private final Function[] functions;
         private final int[] places;
@@ -1133,7 +1143,7 @@ public final class StackForge {
                     }
                     break;
                 case Instruction.JUMP_ONE_OF:
-                    jumpToOneOf(call, at, operand);
+                    jump(call, chosenJump(call, at, operand));
                     break;
                 default:
                     leave(call);
@@ -1148,10 +1158,10 @@ public final class StackForge {
             }
         }
 
-        private void jumpToOneOf(Call call, int at, int last) {
+        private int chosenJump(Call call, int at, int last) {
             int choice = call.stack.takeInt();
             int chosen = choice >= 0 && choice < last ? choice : last;
-            jump(call, call.function.byteAt(at + 2 + chosen));
+            return call.function.byteAt(at + 2 + chosen);
         }
 
         private void leave(Call call) {
@@ -1331,7 +1341,7 @@ public final class StackForge {
                 case 43:
                     return x < y ? 1 : 0;
                 default:
-                    return (x ^ Integer.MIN_VALUE) < (y ^ Integer.MIN_VALUE) ? 1 : 0;
+                    return (x & LOW_HALF) < (y & LOW_HALF) ? 1 : 0;
             }
         }
 
@@ -1397,14 +1407,14 @@ public final class StackForge {
                 return NO_TRAP;
             }
             double z = ofReals(number, x, y);
-            if (z > MOST || z < -MOST) {
+            if (z > 1.0E300 || z < -1.0E300) {
                 return TRAP_RANGE;
             }
             stack.putReal(z);
             return NO_TRAP;
         }
 
-        /** No double in the machine is beyond MOST, and y is not 0.0 where x / y is asked: no NaN. */
+        /** No double in the machine is beyond 1.0E300, and 0.0 divides nothing: no answer is NaN. */
         private static double ofReals(int number, double x, double y) {
             switch (number) {
                 case 70:
@@ -1429,7 +1439,7 @@ public final class StackForge {
                 case 83:
                     return cut(stack);
                 case 85:
-                    stack.putNumber(stack.takeNumber() & 0xFFFFFFFFL);
+                    stack.putNumber(stack.takeNumber() & LOW_HALF);
                     break;
                 default:
                     break;

@@ -2,7 +2,10 @@ import java.util.ArrayList;
 import java.util.List;
 import java.util.NoSuchElementException;
 
-/** Many calls with all kinds of numbers: only what the document tells may be thrown, and then nothing changes. */
+/**
+ * Many calls with all kinds of numbers: only what the document tells may be thrown, and a call that
+ * throws changes nothing, but for a trap.
+ */
 public final class AnyCallsTest {
     private static long seed = 20240131;
 

@@ -104,8 +104,8 @@ public final class FlowTest {
         gives(5, 4, Trial.forge(0, 1, 0, 2, 0, 20, 9, 20, 5, 7, 1, 6, 20, 4, 6));
         gives(5, 2, Trial.forge(0, 1, 0, 20, 5, 7, 0, 6));
         // A frame without a result: nothing is kept of what was put in it.
-        gives(-2, 7, Trial.forge(0, 1, 0, 20, 5, 20, 7, 2, 0, 20, 9, 7, 0, 6, 31, 6));
-        gives(-2, 9, Trial.forge(1, 1, 0, 20, 5, 20, 7, 15, 0, 4, 0, 20, 9, 15, 0, 8, 0, 13, 6, 31, 6),
+        gives(-2, 7, Trial.forge(0, 1, 0, 20, 5, 20, 7, 2, 0, 20, 8, 7, 0, 6, 31, 6));
+        gives(-2, 9, Trial.forge(1, 1, 0, 20, 5, 20, 7, 15, 0, 4, 0, 20, 8, 15, 0, 8, 0, 13, 6, 31, 6),
                 1);
         // Every kind is kept.
         gives(-6, 4, Trial.forge(0, 2, 0, 2, 2, 21, 250, 7, 0, 6, 6));
@@ -230,6 +230,10 @@ public final class FlowTest {
         StackForge twice = Trial.forge(1, 1, 0, 15, 0, 11, 1, 15, 0, 11, 1, 30, 6);
         Trial.define(twice, 1, 1, 1, 1, 15, 0, 15, 1, 30, 17, 1, 16, 0, 15, 1, 6);
         gives(8, 6 + 14, twice, 4);
+        // LOCALS are 0 whatever the caller had on its STACK before.
+        StackForge u = Trial.forge(0, 1, 0, 20, 55, 20, 66, 20, 77, 13, 13, 11, 1, 6);
+        Trial.define(u, 1, 1, 1, 11, 15, 1, 15, 2, 30, 6);
+        gives(0, 7 + 4, u);
         // What the caller has below stays, and its VARIABLES too.
         StackForge y = Trial.forge(1, 1, 0, 20, 100, 15, 0, 11, 1, 31, 15, 0, 30, 6);
         Trial.define(y, 1, 1, 1, 0, 20, 1, 16, 0, 20, 60, 20, 50, 10, 6);
