@@ -78,6 +78,9 @@ public final class FlowTest {
         int[] dirty = {20, 40, 3, 1, 20, 1, 20, 2, 20, 3, 15, 0, 20, 1, 31, 17, 0, 8, 0, 13, 13, 6, 30,
             6};
         gives(41, 2 + 4 * 8 + 5, Trial.forge(1, 1, 0, dirty), 4);
+        int[] dirtyFromTheBottom = {3, 1, 20, 1, 20, 2, 20, 3, 15, 0, 20, 1, 31, 17, 0, 8, 0, 13, 13,
+            20, 50, 30, 6, 6};
+        gives(51, 1 + 12 * 8 + 6, Trial.forge(1, 1, 0, dirtyFromTheBottom), 12);
         // A loop that ends by its END goes on behind it, with its result.
         gives(12, 5, Trial.forge(0, 1, 0, 3, 1, 20, 12, 6, 1, 6));
         // Inner loop in an outer one: a * b by ones.
