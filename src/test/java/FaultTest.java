@@ -10,6 +10,7 @@ public final class FaultTest {
         frames();
         elses();
         jumps();
+        jumpsToIfs();
         jumpsToOneOf();
         deadCode();
         anyKinds();
@@ -217,6 +218,23 @@ public final class FaultTest {
         bad("10 with another", 4, 0, 1, 0, 2, 0, 21, 1, 10, 6, 20, 1, 6);
         bad("10 not from below the base", 4, 0, 1, 0, 20, 1, 2, 0, 10, 6, 6);
         good("10: not the inner's result", 0, 0, 0, 2, 1, 10, 6, 13, 6);
+    }
+
+    /** A jump to an IF takes its RESULT, in front of its ELSE and behind it. */
+    private static void jumpsToIfs() {
+        good("in front", 1, 1, 0, 15, 0, 4, 1, 20, 1, 7, 0, 5, 20, 2, 6, 6);
+        good("behind", 1, 1, 0, 15, 0, 4, 1, 20, 1, 5, 20, 2, 7, 0, 6, 6);
+        bad("in front, none", 4, 1, 1, 0, 15, 0, 4, 1, 7, 0, 5, 20, 2, 6, 6);
+        bad("behind, none", 7, 1, 1, 0, 15, 0, 4, 1, 20, 1, 5, 7, 0, 6, 6);
+        bad("in front, another", 6, 1, 1, 0, 15, 0, 4, 1, 21, 1, 7, 0, 5, 20, 2, 6, 6);
+        bad("behind, another", 9, 1, 1, 0, 15, 0, 4, 1, 20, 1, 5, 22, 2, 7, 0, 6, 6);
+        good("8", 1, 1, 0, 15, 0, 4, 1, 20, 1, 15, 0, 8, 0, 5, 20, 2, 15, 0, 8, 0, 6, 6);
+        bad("8, none", 6, 1, 1, 0, 15, 0, 4, 1, 15, 0, 8, 0, 5, 20, 2, 6, 6);
+        good("9", 1, 1, 0, 15, 0, 4, 1, 20, 1, 15, 0, 9, 1, 0, 1, 5, 20, 2, 6, 6);
+        bad("9, an IF without a RESULT and the outermost", 8, 1, 1, 0, 15, 0, 4, 0, 20, 1, 15, 0, 9, 1, 0,
+                1, 6, 20, 2, 6);
+        good("without a RESULT", 1, 0, 0, 15, 0, 4, 0, 7, 0, 5, 7, 0, 6, 6);
+        good("without a RESULT, from within", 1, 0, 0, 15, 0, 4, 0, 3, 1, 7, 1, 6, 13, 6, 6);
     }
 
     private static void jumpsToOneOf() {

@@ -3,6 +3,7 @@ public final class FlowTest {
     public static void main(String[] args) {
         blocks();
         ifs();
+        everyIntButNone();
         elses();
         loops();
         jumps();
@@ -42,6 +43,23 @@ public final class FlowTest {
             6};
         gives(1, 12, Trial.forge(1, 1, 0, nested), 5);
         gives(0, 4, Trial.forge(1, 1, 0, nested), 0);
+    }
+
+    /** What is not 0 is so for 4, 8 and 14, whichever of its bits are set. */
+    private static void everyIntButNone() {
+        StackForge x = new StackForge();
+        Trial.define(x, 0, 1, 1, 0, 15, 0, 4, 1, 20, 7, 5, 20, 8, 6, 6);
+        Trial.define(x, 1, 1, 1, 0, 20, 7, 15, 0, 8, 0, 13, 20, 8, 6);
+        Trial.define(x, 2, 1, 1, 0, 20, 7, 20, 8, 15, 0, 14, 6);
+        x.check();
+        for (int bit = -1; bit < 32; bit++) {
+            int number = bit < 0 ? 0 : 1 << bit;
+            for (int f = 0; f < 3; f++) {
+                Trial.begin(x, f, number);
+                Trial.end(x);
+                Trial.same("function " + f + " of " + number, x.result(), number == 0 ? 8 : 7);
+            }
+        }
     }
 
     private static void elses() {

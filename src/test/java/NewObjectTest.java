@@ -4,6 +4,7 @@ public final class NewObjectTest {
         constants();
         numbersAtFirst();
         nothingIsThereAtFirst();
+        nothingIsInTheTableAtFirst();
         objectsAreApart();
         Trial.finish();
     }
@@ -52,6 +53,27 @@ public final class NewObjectTest {
         Trial.same("fault of a variable", x.fault(1), 0);
         Trial.write(x, 2, 20, 0, 6);
         Trial.same("fault of a result", x.fault(2), 2);
+        x.shape(1, 0, 0, 0);
+        x.shape(2, 0, 0, 0);
+        // There is code now, but it is not checked.
+        Trial.illegalState("not checked", () -> x.start(0));
+        x.check();
+        x.argue(1);
+        Trial.unsupported("an argument for no parameter", () -> x.start(0));
+        StackForge y = new StackForge();
+        Trial.write(y, 5, 6);
+        y.check();
+        Trial.same("start without arguments", y.start(5), 0);
+        Trial.same("run", y.run(20), 1);
+        Trial.noSuchElement("no result", () -> y.result());
+        Trial.noSuchElement("no real", () -> y.real());
+    }
+
+    private static void nothingIsInTheTableAtFirst() {
+        for (int place = 0; place < 8; place++) {
+            StackForge x = Trial.forge(1, 0, 0, 15, 0, 12, 1, 6);
+            Trial.traps("place " + place, 4, x, place);
+        }
     }
 
     private static void objectsAreApart() {

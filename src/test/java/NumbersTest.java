@@ -5,8 +5,6 @@ public final class NumbersTest {
     private static final long[] LONGS = {0, 1, -1, 2, -2, 3, 7, -7, 31, 32, 63, 64, 65, 1L << 31,
         1L << 32, -(1L << 31), -(1L << 32), (1L << 32) + 5, 0x123456789ABCDEFL, Long.MIN_VALUE,
         Long.MIN_VALUE + 1, Long.MAX_VALUE};
-    /** Of two ints, the upper and the lower half, a long. */
-    private static final int[] MAKE_LONG = {15, 0, 81, 21, 32, 58, 15, 1, 85, 56};
     private static final int[] EIGHTHS = {0, 1, -1, 4, 8, -8, 9, 20, -20, 1000, -1001,
         Integer.MAX_VALUE, Integer.MIN_VALUE};
 
@@ -70,7 +68,7 @@ public final class NumbersTest {
 
     /** Function 0: an int and an int become the long in GLOBAL 1; function 1: the number on it. */
     private static StackForge longForge(int number, int result) {
-        StackForge x = Trial.forge(11, 0, 0, Trial.join(MAKE_LONG, Trial.row(19, 1, 6)));
+        StackForge x = Trial.forge(11, 0, 0, Trial.join(Trial.MAKE_LONG, Trial.row(19, 1, 6)));
         Trial.define(x, 1, 0, result, 0, 18, 1, number, 6);
         x.check();
         return x;
@@ -78,9 +76,9 @@ public final class NumbersTest {
 
     /** Likewise, but function 1 makes another long of two ints, on which the number is done too. */
     private static StackForge twoLongsForge(int number, int result) {
-        StackForge x = Trial.forge(11, 0, 0, Trial.join(MAKE_LONG, Trial.row(19, 1, 6)));
+        StackForge x = Trial.forge(11, 0, 0, Trial.join(Trial.MAKE_LONG, Trial.row(19, 1, 6)));
         Trial.define(x, 1, 11, result, 0,
-                Trial.join(Trial.row(18, 1), MAKE_LONG, Trial.row(number, 6)));
+                Trial.join(Trial.row(18, 1), Trial.MAKE_LONG, Trial.row(number, 6)));
         x.check();
         return x;
     }

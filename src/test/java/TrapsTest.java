@@ -134,6 +134,8 @@ public final class TrapsTest {
         Trial.gives("the lowest int and less", Integer.MIN_VALUE, Trial.forge(333, 1, 0, cut), 1 << 30,
                 -128, -7);
         Trial.traps("past the lowest int", 5, Trial.forge(333, 1, 0, cut), 1 << 30, -128, -8);
+        Trial.traps("far past the highest int", 5, Trial.forge(333, 1, 0, cut), 1 << 30, 1 << 30, 0);
+        Trial.traps("far past the lowest int", 5, Trial.forge(333, 1, 0, cut), 1 << 30, -(1 << 30), 0);
         // Doubles: half of the most there may be, doubled, and half of what is next above it.
         double most = 1.0E300;
         double over = Math.nextUp(most);
@@ -153,6 +155,10 @@ public final class TrapsTest {
         Trial.same("product, below", doubled(Trial.row(18, 2, 22, 0, 18, 2, 71, 72), 1.0E299).count(3),
                 5);
         Trial.same("quotient", doubled(Trial.row(18, 2, 22, 8, 18, 2, 73, 73), 1.0E299).count(3), 5);
+        Trial.same("cut", doubled(Trial.row(18, 2, 83, 82), most).count(3), 5);
+        Trial.same("cut, below", doubled(Trial.row(18, 2, 83, 82), -most).count(3), 5);
+        Trial.sameReal("cut of the smallest", doubled(Trial.row(22, 8, 18, 2, 73, 83, 82), most).real(),
+                0.0);
         Trial.sameReal("small", doubled(Trial.row(22, 8, 18, 2, 73), 1.0E299).real(), 1 / 1.0E299);
         Trial.sameReal("0.0 less", doubled(Trial.row(18, 2, 76), most).real(), -most);
         StackForge y = doubled(Trial.row(18, 2, 18, 2, 75, 82), most);

@@ -2,6 +2,8 @@
 final class Trial {
     /** Bytes that put an int, a long or a double (of 0, 0 and 0.0) on the stack, by kind. */
     static final int[][] PUSH = {{}, {20, 0}, {21, 0}, {22, 0}};
+    /** Bytes that put a long, of VARIABLE 0, its upper half, and VARIABLE 1, its lower half. */
+    static final int[] MAKE_LONG = {15, 0, 81, 21, 32, 58, 15, 1, 85, 56};
 
     private static int wrong = 0;
 
