@@ -51,12 +51,12 @@ public final class LimitsTest {
     private static void elseInTheEighthFrame() {
         int[] code = Trial.join(Trial.repeat(6, 2, 0),
                 Trial.row(15, 0, 4, 1, 20, 8, 5, 20, 9, 6, 16, 0), Trial.repeat(6, 6),
-                Trial.row(15, 0, 6));
+                Trial.row(15, 0, 20, 100, 30, 6));
         StackForge x = Trial.forge(1, 1, 0, code);
-        Trial.gives("if", 8, x, 1);
-        Trial.same("if: steps", x.count(1), 6 + 5 + 6 + 2);
-        Trial.gives("else", 9, x, 0);
-        Trial.same("else: steps", x.count(1), 6 + 5 + 6 + 2);
+        Trial.gives("if", 108, x, 1);
+        Trial.same("if: steps", x.count(1), 6 + 5 + 6 + 4);
+        Trial.gives("else", 109, x, 0);
+        Trial.same("else: steps", x.count(1), 6 + 5 + 6 + 4);
         int[] without = Trial.join(Trial.repeat(6, 2, 0),
                 Trial.row(15, 0, 4, 0, 20, 8, 16, 0, 6), Trial.repeat(6, 6), Trial.row(15, 0, 6));
         Trial.gives("if without an else", 8, Trial.forge(1, 1, 0, without), 1);
